@@ -493,12 +493,12 @@ public final class RetentionRows {
 
         boolean isChangedFrom(int day) {
             int last = changeCount - 1;
-            return last >= 0 && last < changeDays.length && changeDays[last] >= day;
+            return last >= 0 && last < CHANGES_OF_A_RULE && changeDays[last] >= day;
         }
 
         boolean addChange(int years, int day) {
             int next = changeCount;
-            if (next < 0 || next >= changeDays.length || next >= changeYears.length) {
+            if (next < 0 || next >= CHANGES_OF_A_RULE) {
                 return false;
             }
             changeDays[next] = day;
@@ -513,7 +513,7 @@ public final class RetentionRows {
 
         private int yearsOn(int on) {
             int years = firstYears;
-            for (int i = 0; i < changeCount && i < changeDays.length && i < changeYears.length; i++) {
+            for (int i = 0; i < changeCount && i < CHANGES_OF_A_RULE; i++) {
                 if (changeDays[i] <= on) {
                     years = changeYears[i];
                 }

@@ -345,7 +345,8 @@ public final class ModelRunsTest {
                     listed.add(new int[] {i, unit.dueDay(on), unit.action(on)});
                 }
             }
-            listed.sort(Comparator.<int[]>comparingInt(row -> row[1]).thenComparingInt(row -> row[0]));
+            listed.sort(Comparator.<int[]>comparingInt(row -> row[1])
+                    .thenComparingInt(row -> row[0]));
             return listed.size();
         }
 

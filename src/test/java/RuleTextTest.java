@@ -58,6 +58,8 @@ public final class RuleTextTest {
         wrong(" made 1 destroy", 0);
         wrong("mad 1 destroy", 0);
         wrong("madee 1 destroy", 0);
+        wrong("madea 1 destroy", 0);
+        wrong("madez 1 destroy", 0);
         wrong("closd 2 destroy", 0);
         wrong("deathmade 2 destroy", 0);
         wrong("destroy 2 destroy", 0);
@@ -111,6 +113,13 @@ public final class RuleTextTest {
         int[] places = {0, 0, 0, 0, 0, 5, 6, 7, 8, 9, 9, 9, 9, 9, 9, 9, 9};
         for (int length = 0; length < text.length(); length++) {
             wrong(text.substring(0, length), places[length]);
+        }
+        RetentionRows x = new RetentionRows();
+        for (int length = 0; length < text.length(); length++) {
+            Checks.rule(x, text);
+            String part = text.substring(0, length);
+            Checks.is("'" + part + "' behind the whole", Checks.rule(x, part),
+                    -10 - places[length]);
         }
     }
 
