@@ -7,15 +7,22 @@ final class Checks {
 
     private static int wrong = 0;
     private static int asked = 0;
+    private static String sentence = "";
 
     private Checks() {
+    }
+
+    /** The document's words that the answers behind this call are held against. */
+    static void sentence(String words) {
+        sentence = "[" + words + "] ";
     }
 
     static void is(String what, long got, long want) {
         asked++;
         if (got != want) {
             wrong++;
-            System.out.println(what + ": answered " + told(got) + ", due is " + told(want));
+            System.out.println(sentence + what + ": answered " + told(got) + ", due is "
+                    + told(want));
         }
     }
 
