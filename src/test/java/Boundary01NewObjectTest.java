@@ -33,7 +33,8 @@ public final class Boundary01NewObjectTest {
                 Checks.is("about(" + unit + ", " + kind + ")", x.about(unit, kind), -1);
             }
         }
-        String[] texts = {"made 0 destroy", "used 0 destroy", "closed 0 destroy", "death 0 destroy"};
+        String[] texts = {"made 0 destroy", "used 0 destroy", "closed 0 destroy",
+            "death 0 destroy"};
         for (int kind = 0; kind < 4; kind++) {
             RetentionRows y = Scenes.withRules(texts[kind]);
             for (int unit = 0; unit < 60; unit++) {

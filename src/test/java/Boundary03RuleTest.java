@@ -211,7 +211,8 @@ public final class Boundary03RuleTest {
 
     private static void mostAndLeastYears() {
         Checks.sentence("3 rule: 1 to 3 digits: 0 .. 999 years of 365 days");
-        String[] digits = {"0", "00", "000", "1", "01", "001", "9", "10", "99", "100", "990", "999"};
+        String[] digits = {"0", "00", "000", "1", "01", "001", "9", "10", "99", "100", "990",
+            "999"};
         for (int i = 0; i < digits.length; i++) {
             RetentionRows x = Scenes.withRules("made " + digits[i] + " destroy");
             Scenes.makeDue(x, 0, 0);

@@ -50,7 +50,8 @@ public final class Boundary06EventTest {
 
     private static void eachKind() {
         Checks.sentence("Terms: EVENTS are 0 made, 1 used, 2 closed, 3 death");
-        String[] texts = {"made 0 destroy", "used 0 destroy", "closed 0 destroy", "death 0 destroy"};
+        String[] texts = {"made 0 destroy", "used 0 destroy", "closed 0 destroy",
+            "death 0 destroy"};
         for (int kind = 0; kind < 4; kind++) {
             RetentionRows x = Scenes.withRules(texts[kind]);
             x.schedule(5, 0);

@@ -148,7 +148,8 @@ public final class Boundary10DayTest {
 
     private static void leastAndMostDueDays() {
         Checks.sentence("Terms: the day of its event and YEARS * 365 days more");
-        RetentionRows x = Scenes.withRules("made 0 destroy", "used 999 destroy", "closed 1 destroy");
+        RetentionRows x = Scenes.withRules("made 0 destroy", "used 999 destroy",
+                "closed 1 destroy");
         x.event(0, 0, 0);
         x.schedule(0, 0);
         Checks.is("the least", x.day(0, 0), 0);
@@ -165,7 +166,7 @@ public final class Boundary10DayTest {
     }
 
     private static void yearsOnTheDayOfAsking() {
-        Checks.sentence("Terms: YEARS being those that the rule has on the day on which it is asked");
+        Checks.sentence("Terms: YEARS: those that the rule has on the day on which it is asked");
         RetentionRows x = Scenes.withRules("made 2 destroy", "made 1 transfer");
         x.event(0, 0, 100);
         x.schedule(0, 0);

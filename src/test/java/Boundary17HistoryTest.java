@@ -17,7 +17,7 @@ public final class Boundary17HistoryTest {
     }
 
     private static void noneSuchAtFirst() {
-        Checks.sentence("17 history: NoSuchElementException if there is none such: nothing was done");
+        Checks.sentence("17 history: NoSuchElementException if there is none such: none yet");
         RetentionRows x = Scenes.withDueUnits(2, 0);
         noneSuch(x, -1, 0, 1, 59, 60, Integer.MIN_VALUE, Integer.MAX_VALUE);
     }
